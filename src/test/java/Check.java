@@ -1,0 +1,75 @@
+import java.util.Objects;
+
+/** What every test uses: it compares answers with those that are due, and counts. */
+final class Check {
+    interface Call {
+        Object make();
+    }
+
+    private static int asked = 0;
+    private static int wrong = 0;
+
+    private Check() {
+    }
+
+    static void due(String call, Object got, Object want) {
+        asked++;
+        if (!Objects.equals(got, want)) {
+            wrong++;
+            System.out.println(call + " answered " + got + ", due is " + want);
+        }
+    }
+
+    /** The answer of a call, or the name of the exception that it throws. */
+    static Object answer(Call call) {
+        try {
+            return call.make();
+        } catch (RuntimeException e) {
+            return e.getClass().getSimpleName();
+        }
+    }
+
+    /** The call throws exactly this exception, and everything that can be seen stays as it was. */
+    static void refused(CeilingWorkbench x, String call, Class<? extends RuntimeException> want, Call made) {
+        String before = View.of(x);
+        due(call, answer(made), want.getSimpleName());
+        due(call + " leaves the state", View.of(x), before);
+    }
+
+    static CeilingWorkbench typed(CeilingWorkbench x, String text) {
+        for (int k = 0; k < text.length(); k++) {
+            x.append(text.charAt(k));
+        }
+        return x;
+    }
+
+    static Object configured(CeilingWorkbench x, String text) {
+        typed(x, text);
+        return answer(x::configure);
+    }
+
+    /** What ran from the unit of time 0 on, a sign each: the task, S for the server, a dot for nothing. */
+    static String trace(CeilingWorkbench x) {
+        StringBuilder text = new StringBuilder();
+        for (int time = 0; time < x.clock(); time++) {
+            int ran = x.ranAt(time);
+            text.append(ran == 9 ? "S" : ran == -1 ? "." : Integer.toString(ran));
+        }
+        return text.toString();
+    }
+
+    static String results(CeilingWorkbench x, int task) {
+        StringBuilder text = new StringBuilder();
+        for (int what = 0; what < 6; what++) {
+            text.append(what == 0 ? "" : " ").append(x.result(task, what));
+        }
+        return text.toString();
+    }
+
+    static void end(String name) {
+        System.out.println(name + ": " + asked + " answers, " + wrong + " not as due");
+        if (wrong != 0 || asked == 0) {
+            System.exit(1);
+        }
+    }
+}
