@@ -16,8 +16,19 @@ final class Check {
         asked++;
         if (!Objects.equals(got, want)) {
             wrong++;
-            System.out.println(call + " answered " + got + ", due is " + want);
+            System.out.println(call + " " + difference(String.valueOf(got), String.valueOf(want)));
         }
+    }
+
+    /** Views have many lines, of which only the first that differs is told. */
+    private static String difference(String got, String want) {
+        String[] gotLines = got.split("\n");
+        String[] wantLines = want.split("\n");
+        int line = 0;
+        while (line < gotLines.length - 1 && line < wantLines.length - 1 && gotLines[line].equals(wantLines[line])) {
+            line++;
+        }
+        return "answered " + gotLines[line] + ", due is " + wantLines[line];
     }
 
     /** The answer of a call, or the name of the exception that it throws. */

@@ -1,61 +1,77 @@
-/** Everything of a workbench that can be asked without changing it. */
+import java.lang.reflect.InvocationTargetException;
+import java.lang.reflect.Method;
+
+/** Everything that can be asked without changing it, of a workbench or of its model, as one text. */
 final class View {
-    private View() {
+    private final Object asked;
+    private final StringBuilder text = new StringBuilder();
+
+    private View(Object asked) {
+        this.asked = asked;
     }
 
-    static String of(CeilingWorkbench x) {
-        StringBuilder text = new StringBuilder();
-        whole(x, text);
+    static String of(Object asked) {
+        View view = new View(asked);
+        view.whole();
         for (int task = 0; task < 5; task++) {
-            task(x, task, text);
+            view.task(task);
         }
         for (int resource = 0; resource < 4; resource++) {
-            int r = resource;
-            show(text, "c", () -> x.ceiling(r));
-            show(text, "h", () -> x.holder(r));
+            view.show("ceiling", resource);
+            view.show("holder", resource);
         }
         for (int request = 0; request < 12; request++) {
-            int q = request;
-            show(text, "q", () -> x.requestResponse(q));
+            view.show("requestResponse", request);
         }
-        return text.append(Check.trace(x)).toString();
+        return view.text.toString();
     }
 
-    private static void whole(CeilingWorkbench x, StringBuilder text) {
-        show(text, "tasks", x::taskCount);
-        show(text, "clock", x::clock);
-        show(text, "error", x::errorPosition);
-        show(text, "schedulable", x::isSchedulable);
-        show(text, "load", x::load);
-        show(text, "hyperbolic", x::hyperbolicLoad);
-        show(text, "balance", x::balance);
-        show(text, "next", x::nextReplenishment);
-        show(text, "utilization", x::utilization);
-        show(text, "policy", () -> policy(x));
-    }
-
-    // The policy is told only when another one is set, so it is put back at once.
-    private static int policy(CeilingWorkbench x) {
-        int policy = x.setPolicy(0);
-        x.setPolicy(policy);
-        return policy;
-    }
-
-    private static void task(CeilingWorkbench x, int task, StringBuilder text) {
-        for (int k = 0; k < 6; k++) {
-            int what = k;
-            show(text, "t", () -> x.task(task, what));
-            show(text, "r", () -> x.result(task, what));
+    private void whole() {
+        String[] names = {"taskCount", "clock", "errorPosition", "isSchedulable", "load", "hyperbolicLoad", "balance",
+            "nextReplenishment", "utilization"};
+        for (String name : names) {
+            show(name);
         }
-        show(text, "b", () -> x.blocking(task));
-        show(text, "R", () -> x.bound(task));
-        show(text, "w", () -> x.witness(task));
-        show(text, "p", () -> x.pending(task));
-        show(text, "a", () -> x.activePriority(task));
-        show(text, "v", () -> x.averageResponse(task));
+        // The policy is told only when another one is set, so it is put back at once.
+        Object policy = show("setPolicy", 0);
+        show("setPolicy", (Integer) policy);
+        int clock = (Integer) show("clock");
+        for (int time = 0; time < clock; time++) {
+            show("ranAt", time);
+        }
     }
 
-    private static void show(StringBuilder text, String name, Check.Call call) {
-        text.append(name).append('=').append(Check.answer(call)).append('\n');
+    private void task(int task) {
+        for (int what = 0; what < 6; what++) {
+            show("task", task, what);
+            show("result", task, what);
+        }
+        String[] names = {"blocking", "bound", "witness", "pending", "activePriority", "averageResponse"};
+        for (String name : names) {
+            show(name, task);
+        }
+    }
+
+    private Object show(String name, Integer... numbers) {
+        Object answer = answer(name, numbers);
+        text.append(name);
+        for (int number : numbers) {
+            text.append(' ').append(number);
+        }
+        text.append(": ").append(answer).append('\n');
+        return answer;
+    }
+
+    private Object answer(String name, Integer... numbers) {
+        Class<?>[] types = new Class<?>[numbers.length];
+        java.util.Arrays.fill(types, int.class);
+        try {
+            Method method = asked.getClass().getDeclaredMethod(name, types);
+            return method.invoke(asked, (Object[]) numbers);
+        } catch (InvocationTargetException e) {
+            return e.getCause().getClass().getSimpleName();
+        } catch (ReflectiveOperationException e) {
+            throw new AssertionError(e);
+        }
     }
 }
