@@ -64,7 +64,6 @@ public final class CeilingWorkbench {
         bench = new Bench();
         kept = new Bench();
         reader = new Reader();
-        hasSnapshot = false;
         lastError = NONE;
     }
 
@@ -637,11 +636,6 @@ public final class CeilingWorkbench {
         private int busySince;
         private int busyUnits;
 
-        private void remove() {
-            present = false;
-            startAgain();
-        }
-
         private void begin(int newPriority, int newBudget, int newPeriod) {
             present = true;
             priority = newPriority;
@@ -653,8 +647,6 @@ public final class CeilingWorkbench {
         private void startAgain() {
             balance = budget;
             busy = false;
-            busySince = 0;
-            busyUnits = 0;
             planCount = 0;
         }
 
@@ -747,7 +739,7 @@ public final class CeilingWorkbench {
             int removed = taskCount;
             startAgain();
             taskCount = 0;
-            server.remove();
+            server.present = false;
             requests.removeAll();
             policy = 0;
             for (int k = 0; k < MAX_RESOURCES; k++) {
@@ -883,17 +875,15 @@ public final class CeilingWorkbench {
         private int mostUrgent(boolean serverIsReady) {
             int chosen = serverIsReady ? SERVER : NONE;
             int urgency = serverIsReady ? server.priority : 0;
-            boolean holds = false;
             for (int i = 0; i < taskCount; i++) {
                 if (tasks[i].jobs.isEmpty()) {
                     continue;
                 }
                 int own = urgencyOf(tasks[i]);
-                boolean ownHolds = tasks[i].heldResource() != NONE;
-                if (own > urgency || own == urgency && ownHolds && !holds) {
+                // Two that hold are never equal: the later one began above the earlier one's ceiling.
+                if (own > urgency || own == urgency && tasks[i].heldResource() != NONE) {
                     chosen = i;
                     urgency = own;
-                    holds = ownHolds;
                 }
             }
             return chosen;

@@ -70,6 +70,14 @@ public final class AnalysisTest {
         y.addSegment(1, 1, 3);
         Check.due("the greatest one alone", y.blocking(0), 3);
         Check.due("a greater priority does not block", y.blocking(1), 0);
+        CeilingWorkbench z = new CeilingWorkbench();
+        z.addTask(2, 20, 20, 0);
+        z.addTask(5, 20, 20, 0);
+        z.addSegment(0, 0, 4);
+        z.addSegment(1, 0, 9);
+        Check.due("blocked by a task with a lower number", z.blocking(1), 3);
+        z.clear();
+        Check.due("ceilings are cleared", z.ceiling(0), 0);
     }
 
     private static void boundsAndWitnesses() {
@@ -177,6 +185,17 @@ public final class AnalysisTest {
         Check.due("two tasks", x.isSchedulable(), true);
         x.addSegment(1, 0, 2);
         Check.due("blocking makes a bound of 5", x.isSchedulable(), false);
+        CeilingWorkbench z = new CeilingWorkbench();
+        z.addTask(5, 1, 1, 0);
+        z.addSegment(0, -1, 1);
+        Check.due("a bound of 1", z.isSchedulable(), true);
+        Check.due("load of a period of 1", z.load(), 1.0);
+        z.addTask(6, 1, 1, 0);
+        z.addSegment(1, -1, 1);
+        Check.due("a task without a bound", z.isSchedulable(), false);
+        z.clear();
+        z.addTask(5, 2, 2, 0);
+        Check.due("demands are cleared", z.load(), 0.0);
         CeilingWorkbench y = new CeilingWorkbench();
         y.addTask(5, 10, 3, 0);
         y.addSegment(0, -1, 2);

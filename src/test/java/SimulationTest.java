@@ -10,6 +10,7 @@ public final class SimulationTest {
     public static void main(String[] args) {
         runAndClock();
         runToTheEnd();
+        abortToTheEnd();
         ceilingsInTheRun();
         holdersPreemptedByGreaterOnes();
         nothingHeldBetweenSegments();
@@ -75,6 +76,19 @@ public final class SimulationTest {
         Check.refused(x, "ranAt(400)", INDEX, () -> x.ranAt(400));
     }
 
+    private static void abortToTheEnd() {
+        CeilingWorkbench x = one(1, 1, 0, 2);
+        x.setPolicy(1);
+        for (int k = 1; k <= 4; k++) {
+            Check.due("run(100)", x.run(100), 0);
+        }
+        Check.due("results", Check.results(x, 0), "0 399 399 0 0 0");
+        Check.due("pending", x.pending(0), 1);
+        x.rewind();
+        Check.due("run(100)", x.run(100), 0);
+        Check.due("as before", Check.results(x, 0), "0 99 99 0 0 0");
+    }
+
     private static void ceilingsInTheRun() {
         CeilingWorkbench x = new CeilingWorkbench();
         x.addTask(5, 20, 20, 2);
@@ -103,6 +117,13 @@ public final class SimulationTest {
         Check.due("results", Check.results(x, 0), "1 0 0 0 0 4");
         Check.due("results", Check.results(x, 1), "1 0 0 0 0 7");
         Check.due("results", Check.results(x, 2), "1 0 0 0 1 9");
+        CeilingWorkbench y = new CeilingWorkbench();
+        y.addTask(1, 30, 30, 0);
+        y.addTask(5, 20, 20, 2);
+        y.addSegment(0, 0, 4);
+        y.addSegment(1, 0, 2);
+        y.run(7);
+        Check.due("the holder runs on, whatever its number", Check.trace(y), "000011.");
     }
 
     private static void holdersPreemptedByGreaterOnes() {
@@ -230,6 +251,16 @@ public final class SimulationTest {
         Check.due("the first runs on", x.run(2), 1);
         Check.due("results", Check.results(x, 0), "1 2 1 0 0 9");
         Check.due("the third", x.pending(0), 1);
+        Check.due("run(2)", x.run(2), 0);
+        Check.due("it is removed after others are gone", Check.results(x, 0), "1 3 2 0 0 9");
+        Check.due("nothing waits", x.pending(0), 0);
+        CeilingWorkbench y = one(4, 2, 0, 5);
+        y.run(9);
+        y.setPolicy(1);
+        // At 10 the first two jobs are finished, and the third one is due.
+        y.run(2);
+        Check.due("results", Check.results(y, 0), "2 3 1 0 0 6");
+        Check.due("pending", y.pending(0), 0);
     }
 
     private static void removedHolderHoldsNothing() {
@@ -313,22 +344,31 @@ public final class SimulationTest {
     }
 
     private static void rewind() {
-        CeilingWorkbench x = busyBench();
-        CeilingWorkbench y = busyBench();
-        Check.due("rewind at 0", x.rewind(), 0);
-        x.run(37);
+        for (int policy = 0; policy < 3; policy++) {
+            for (int units = 0; units <= 40; units++) {
+                rewindAt(units, policy);
+            }
+        }
+    }
+
+    private static void rewindAt(int units, int policy) {
+        CeilingWorkbench x = busyBench(policy);
+        CeilingWorkbench y = busyBench(policy);
+        for (int k = 0; k < units; k++) {
+            x.run(1);
+        }
         x.request(40, 3);
         y.request(40, 3);
-        Check.due("rewind", x.rewind(), 37);
+        Check.due("rewind", x.rewind(), units);
         Check.due("as if no unit had been made", View.of(x), View.of(y));
         Check.due("run", x.run(70), y.run(70));
         Check.due("the same again", View.of(x), View.of(y));
         Check.due("rewind", x.rewind(), 70);
-        Check.due("policy stays", x.setPolicy(2), 2);
+        Check.due("policy stays", x.setPolicy(0), policy);
     }
 
     /** In this one, releases are to be skipped, jobs hold resources and the server is busy most of the time. */
-    private static CeilingWorkbench busyBench() {
+    private static CeilingWorkbench busyBench(int policy) {
         CeilingWorkbench x = new CeilingWorkbench();
         x.addTask(8, 9, 2, 3);
         x.addTask(4, 7, 3, 1);
@@ -342,7 +382,7 @@ public final class SimulationTest {
         for (int time = 0; time < 40; time += 8) {
             x.request(time, 3);
         }
-        x.setPolicy(2);
+        x.setPolicy(policy);
         return x;
     }
 

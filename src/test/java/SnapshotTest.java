@@ -50,6 +50,8 @@ public final class SnapshotTest {
                 x.clear();
                 x.addTask(1, 2, 2, 0);
                 x.addSegment(0, 3, 5);
+                x.setServer(9, 7, 13);
+                x.request(3, 9);
                 x.run(100);
                 Check.due("restore", x.restore(), units);
                 Check.due("restored", View.of(x), then);
