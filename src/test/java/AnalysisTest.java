@@ -10,6 +10,7 @@ public final class AnalysisTest {
         ceilings();
         blocking();
         boundsAndWitnesses();
+        boundsOfFullTasks();
         boundsWithServer();
         boundsUpToThousand();
         wrongTasks();
@@ -104,6 +105,24 @@ public final class AnalysisTest {
     private static void due(CeilingWorkbench x, int task, int want) {
         Check.due("bound(" + task + ")", Check.answer(() -> x.bound(task)), want);
         Check.due("witness(" + task + ")", Check.answer(() -> x.witness(task)), want);
+    }
+
+    private static void boundsOfFullTasks() {
+        CeilingWorkbench x = new CeilingWorkbench();
+        for (int task = 0; task < 5; task++) {
+            x.addTask(9 - task, 60, 60, 0);
+            for (int k = 0; k < 6; k++) {
+                x.addSegment(task, 3, k == 5 ? 3 : 1);
+            }
+        }
+        for (int task = 0; task < 4; task++) {
+            Check.due("blocking(" + task + ")", x.blocking(task), 2);
+            due(x, task, 8 * (task + 1) + 2);
+        }
+        Check.due("blocking(4)", x.blocking(4), 0);
+        due(x, 4, 40);
+        Check.due("schedulable", x.isSchedulable(), true);
+        Check.due("load", x.load(), 8.0 / 60.0 + 8.0 / 60.0 + 8.0 / 60.0 + 8.0 / 60.0 + 8.0 / 60.0);
     }
 
     private static void boundsWithServer() {

@@ -47,6 +47,25 @@ final class Check {
         due(call + " leaves the state", View.of(x), before);
     }
 
+    /** In this one, deadlines are missed, jobs hold resources and the server is busy most of the time. */
+    static CeilingWorkbench busyBench(int policy) {
+        CeilingWorkbench x = new CeilingWorkbench();
+        x.addTask(8, 9, 2, 3);
+        x.addTask(4, 7, 3, 1);
+        x.addTask(2, 11, 6, 0);
+        x.addSegment(0, 0, 3);
+        x.addSegment(1, 1, 2);
+        x.addSegment(1, -1, 2);
+        x.addSegment(2, 0, 3);
+        x.addSegment(2, 1, 2);
+        x.setServer(6, 2, 5);
+        for (int time = 0; time < 40; time += 8) {
+            x.request(time, 3);
+        }
+        x.setPolicy(policy);
+        return x;
+    }
+
     static CeilingWorkbench typed(CeilingWorkbench x, String text) {
         for (int k = 0; k < text.length(); k++) {
             x.append(text.charAt(k));

@@ -25,6 +25,7 @@ public final class SimulationTest {
         nextJobRunsAfterRemoval();
         preemptions();
         onlyThisVeryJobIsPreempted();
+        fiveTasks();
         averages();
         rewind();
         ranAtAndUtilization();
@@ -87,6 +88,15 @@ public final class SimulationTest {
         x.rewind();
         Check.due("run(100)", x.run(100), 0);
         Check.due("as before", Check.results(x, 0), "0 99 99 0 0 0");
+        CeilingWorkbench y = one(1, 1, 0, 9);
+        for (int k = 1; k <= 3; k++) {
+            y.run(100);
+        }
+        y.run(99);
+        y.setPolicy(1);
+        y.run(1);
+        Check.due("one of 400 releases is removed", Check.results(y, 0), "44 399 1 0 0 353");
+        Check.due("pending", y.pending(0), 355);
     }
 
     private static void ceilingsInTheRun() {
@@ -327,6 +337,22 @@ public final class SimulationTest {
         Check.due("preemptions", y.result(0, 4), 1);
     }
 
+    private static void fiveTasks() {
+        CeilingWorkbench x = new CeilingWorkbench();
+        for (int task = 0; task < 5; task++) {
+            x.addTask(task + 1, 20, 20, 4 - task);
+            for (int k = 0; k < 6; k++) {
+                x.addSegment(task, k % 5 - 1, 1);
+            }
+        }
+        x.run(31);
+        Check.due("trace", Check.trace(x).substring(0, 10), "4444443333");
+        Check.due("no holder between units", x.holder(0), -1);
+        Check.due("finished", x.result(4, 0), 2);
+        Check.due("finished", x.result(0, 0), 0);
+        Check.due("utilization", x.utilization(), 1.0);
+    }
+
     private static void averages() {
         CeilingWorkbench x = new CeilingWorkbench();
         addTask(x, 1, 10, 10, 0, 3);
@@ -352,8 +378,8 @@ public final class SimulationTest {
     }
 
     private static void rewindAt(int units, int policy) {
-        CeilingWorkbench x = busyBench(policy);
-        CeilingWorkbench y = busyBench(policy);
+        CeilingWorkbench x = Check.busyBench(policy);
+        CeilingWorkbench y = Check.busyBench(policy);
         for (int k = 0; k < units; k++) {
             x.run(1);
         }
@@ -365,25 +391,6 @@ public final class SimulationTest {
         Check.due("the same again", View.of(x), View.of(y));
         Check.due("rewind", x.rewind(), 70);
         Check.due("policy stays", x.setPolicy(0), policy);
-    }
-
-    /** In this one, releases are to be skipped, jobs hold resources and the server is busy most of the time. */
-    private static CeilingWorkbench busyBench(int policy) {
-        CeilingWorkbench x = new CeilingWorkbench();
-        x.addTask(8, 9, 2, 3);
-        x.addTask(4, 7, 3, 1);
-        x.addTask(2, 11, 6, 0);
-        x.addSegment(0, 0, 3);
-        x.addSegment(1, 1, 2);
-        x.addSegment(1, -1, 2);
-        x.addSegment(2, 0, 3);
-        x.addSegment(2, 1, 2);
-        x.setServer(6, 2, 5);
-        for (int time = 0; time < 40; time += 8) {
-            x.request(time, 3);
-        }
-        x.setPolicy(policy);
-        return x;
     }
 
     private static void ranAtAndUtilization() {

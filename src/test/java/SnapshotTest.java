@@ -10,25 +10,8 @@ public final class SnapshotTest {
         Check.end("SnapshotTest");
     }
 
-    private static CeilingWorkbench bench() {
-        CeilingWorkbench x = new CeilingWorkbench();
-        x.addTask(8, 9, 2, 3);
-        x.addTask(4, 7, 3, 1);
-        x.addTask(2, 11, 6, 0);
-        x.addSegment(0, 0, 3);
-        x.addSegment(1, 1, 2);
-        x.addSegment(1, -1, 2);
-        x.addSegment(2, 0, 3);
-        x.addSegment(2, 1, 2);
-        x.setServer(6, 2, 5);
-        for (int time = 0; time < 40; time += 8) {
-            x.request(time, 3);
-        }
-        return x;
-    }
-
     private static void withoutSnapshot() {
-        CeilingWorkbench x = bench();
+        CeilingWorkbench x = Check.busyBench(0);
         x.run(5);
         Check.refused(x, "restore", IllegalStateException.class, x::restore);
         x.clear();
@@ -39,8 +22,7 @@ public final class SnapshotTest {
     private static void everythingComesBack() {
         for (int policy = 0; policy < 3; policy++) {
             for (int units = 1; units <= 40; units++) {
-                CeilingWorkbench x = bench();
-                x.setPolicy(policy);
+                CeilingWorkbench x = Check.busyBench(policy);
                 x.run(units);
                 String then = View.of(x);
                 Check.due("snapshot", x.snapshot(), units);
@@ -48,7 +30,7 @@ public final class SnapshotTest {
                 String later = View.of(x);
                 x.setPolicy((policy + 1) % 3);
                 x.clear();
-                x.addTask(1, 2, 2, 0);
+                x.addTask(1, 3, 3, 1);
                 x.addSegment(0, 3, 5);
                 x.setServer(9, 7, 13);
                 x.request(3, 9);
@@ -59,12 +41,15 @@ public final class SnapshotTest {
                 Check.due("the same again", View.of(x), later);
                 Check.due("restore again", x.restore(), units);
                 Check.due("restored again", View.of(x), then);
+                x.rewind();
+                x.run(units);
+                Check.due("made anew after a restore", View.of(x), then);
             }
         }
     }
 
     private static void anEarlierOneIsReplaced() {
-        CeilingWorkbench x = bench();
+        CeilingWorkbench x = Check.busyBench(0);
         Check.due("snapshot", x.snapshot(), 0);
         x.run(20);
         Check.due("snapshot", x.snapshot(), 20);
@@ -104,9 +89,9 @@ public final class SnapshotTest {
     }
 
     private static void laterCallsDoNotTouchIt() {
-        CeilingWorkbench x = bench();
+        CeilingWorkbench x = Check.busyBench(0);
         x.snapshot();
-        CeilingWorkbench y = bench();
+        CeilingWorkbench y = Check.busyBench(0);
         for (int k = 0; k < 3; k++) {
             x.setPolicy(k);
             x.run(30);
