@@ -8,15 +8,25 @@ final class Check {
 
     private static int asked = 0;
     private static int wrong = 0;
+    private static String heading = "";
 
     private Check() {
+    }
+
+    static int asked() {
+        return asked;
+    }
+
+    /** What the following checks are about is told with those that fail. */
+    static void under(String newHeading) {
+        heading = newHeading.isEmpty() ? "" : "[" + newHeading + "] ";
     }
 
     static void due(String call, Object got, Object want) {
         asked++;
         if (!Objects.equals(got, want)) {
             wrong++;
-            System.out.println(call + " " + difference(String.valueOf(got), String.valueOf(want)));
+            System.out.println(heading + call + " " + difference(String.valueOf(got), String.valueOf(want)));
         }
     }
 

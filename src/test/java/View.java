@@ -1,6 +1,3 @@
-import java.lang.reflect.InvocationTargetException;
-import java.lang.reflect.Method;
-
 /** Everything that can be asked without changing it, of a workbench or of its model, as one text. */
 final class View {
     private final Object asked;
@@ -53,25 +50,12 @@ final class View {
     }
 
     private Object show(String name, Integer... numbers) {
-        Object answer = answer(name, numbers);
+        Object answer = Calls.answer(asked, name, numbers);
         text.append(name);
         for (int number : numbers) {
             text.append(' ').append(number);
         }
         text.append(": ").append(answer).append('\n');
         return answer;
-    }
-
-    private Object answer(String name, Integer... numbers) {
-        Class<?>[] types = new Class<?>[numbers.length];
-        java.util.Arrays.fill(types, int.class);
-        try {
-            Method method = asked.getClass().getDeclaredMethod(name, types);
-            return method.invoke(asked, (Object[]) numbers);
-        } catch (InvocationTargetException e) {
-            return e.getCause().getClass().getSimpleName();
-        } catch (ReflectiveOperationException e) {
-            throw new AssertionError(e);
-        }
     }
 }
