@@ -235,8 +235,8 @@ final class AnalysisEdges {
         x.addSegment(1, -1, 1);
         Check.due("one without a bound", x.isSchedulable(), false);
         for (int deadline = 53; deadline <= 55; deadline++) {
-            boolean due = deadline >= 54;
-            Check.due("a bound of 54 at " + deadline, Edges.one(60, deadline, 0, 9, 9, 9, 9, 9, 9).isSchedulable(), due);
+            CeilingWorkbench w = Edges.one(60, deadline, 0, 9, 9, 9, 9, 9, 9);
+            Check.due("a bound of 54 at " + deadline, w.isSchedulable(), deadline >= 54);
         }
         CeilingWorkbench y = Edges.withTasks(5, 0);
         Check.due("five tasks", y.isSchedulable(), true);

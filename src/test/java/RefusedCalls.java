@@ -19,8 +19,9 @@ final class RefusedCalls {
     /** A method with the numbers that are tried for each of its parameters. */
     private static final String[][] METHODS = {
         {"addTask", PRIORITY, PERIOD, PERIOD, " -1 0 60 61"}, {"addSegment", TASK, RESOURCE, LENGTH},
-        {"setServer", PRIORITY, LENGTH, PERIOD}, {"request", TIME, LENGTH}, {"setPolicy", LEAST + " -1 0 2 3" + GREATEST},
-        {"append", " 0 31 32 126 127 65535"}, {"errorPosition"}, {"task", TASK, WHAT}, {"ceiling", RESOURCE},
+        {"setServer", PRIORITY, LENGTH, PERIOD}, {"request", TIME, LENGTH},
+        {"setPolicy", LEAST + " -1 0 2 3" + GREATEST}, {"append", " 0 31 32 126 127 65535"}, {"errorPosition"},
+        {"task", TASK, WHAT}, {"ceiling", RESOURCE},
         {"blocking", TASK}, {"bound", TASK}, {"witness", TASK}, {"run", LEAST + " -1 0 1 100 101" + GREATEST},
         {"ranAt", TIME}, {"pending", TASK}, {"activePriority", TASK}, {"holder", RESOURCE}, {"result", TASK, WHAT},
         {"averageResponse", TASK}, {"balance"}, {"nextReplenishment"}, {"requestResponse", LEAST + " -1 0 1 11 12"},

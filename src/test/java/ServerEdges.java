@@ -18,7 +18,8 @@ final class ServerEdges {
         Sentences.holds("The server has a priority, a budget from 1 to 9, and a period from 1 to 60.",
             ServerEdges::limitsOfTheServer);
         Sentences.holds("It serves requests, of which there are at most 12, numbered from 0 in the order in which they"
-            + " were made; a request has a time from 0 to 300 and a length from 1 to 9.", ServerEdges::limitsOfRequests);
+            + " were made; a request has a time from 0 to 300 and a length from 1 to 9.",
+            ServerEdges::limitsOfRequests);
         Sentences.holds("A request arrives at its time; arrived requests that are not finished are served in the order"
             + " of their times, and those with the same time in the order of their numbers.",
             ServerEdges::orderOfRequests);

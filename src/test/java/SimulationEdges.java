@@ -344,6 +344,29 @@ final class SimulationEdges {
         y.setPolicy(1);
         Edges.runAll(y, 400);
         Check.due("every job but the last", Check.results(y, 0), "0 399 399 0 0 0");
+        removedBetweenOthers();
+    }
+
+    /** Under another policy older jobs have stayed, and a newer one is released in the unit of the removal. */
+    private static void removedBetweenOthers() {
+        CeilingWorkbench x = Edges.one(2, 2, 0, 9);
+        x.run(6);
+        x.setPolicy(1);
+        x.run(1);
+        Check.due("those of 0, 2 and 6 wait", x.pending(0), 3);
+        Check.due("the one of 4 is removed", Check.results(x, 0), "0 3 1 0 0 0");
+        x.setPolicy(0);
+        // The three are finished at 9, 18 and 27.
+        Check.due("run", x.run(20), 3);
+        Check.due("the greatest response", x.result(0, 5), 21);
+        Check.due("the average response", x.averageResponse(0), (9f + 16f + 21f) / 3f);
+        CeilingWorkbench y = new CeilingWorkbench();
+        Edges.addTask(y, 1, 1, 1, 0, 1);
+        Edges.addTask(y, 9, 1, 1, 0, 1);
+        Edges.runAll(y, 399);
+        y.setPolicy(1);
+        y.run(1);
+        Check.due("one of as many as there can be", y.pending(0), 399);
     }
 
     private static void skippedOnceForEachMiss() {

@@ -191,16 +191,17 @@ final class StateEdges {
     }
 
     private static void rewound() {
-        int[] clocks = {0, 1, 59, 60, 61, 399, 400};
-        for (int clock : clocks) {
-            CeilingWorkbench x = Edges.full();
-            CeilingWorkbench y = Edges.full();
-            Edges.runAll(x, clock);
-            x.rewind();
-            Check.due("clock", x.clock(), 0);
-            Check.due("as if no unit had been made", View.of(x), View.of(y));
-            Check.due("run", Edges.runAll(x, 400), Edges.runAll(y, 400));
-            Check.due("the same again", View.of(x), View.of(y));
+        for (int policy = 0; policy <= 2; policy++) {
+            for (int clock = 0; clock <= 400; clock += clock < 60 || clock == 399 ? 1 : 113) {
+                CeilingWorkbench x = Check.busyBench(policy);
+                CeilingWorkbench y = Check.busyBench(policy);
+                Edges.runAll(x, clock);
+                x.rewind();
+                Check.due("clock", x.clock(), 0);
+                Check.due("as if no unit had been made", View.of(x), View.of(y));
+                Check.due("run", Edges.runAll(x, 80), Edges.runAll(y, 80));
+                Check.due("the same again", View.of(x), View.of(y));
+            }
         }
     }
 
@@ -229,27 +230,42 @@ final class StateEdges {
     }
 
     private static void snapshotOfAll() {
-        int[] clocks = {0, 1, 60, 399, 400};
-        for (int clock : clocks) {
-            CeilingWorkbench x = Edges.full();
-            x.setPolicy(1);
-            Edges.runAll(x, clock);
-            String before = View.of(x);
-            x.snapshot();
-            x.clear();
-            Edges.runAll(x, 400);
-            x.restore();
-            Check.due("all comes back", View.of(x), before);
-            Check.due("the buffer is not in it", Check.answer(x::configure), "IllegalArgumentException");
-            x.restore();
-            Check.due("the error position is not in it", x.errorPosition(), 11);
-            Check.due("the empty buffer stays", x.append('a'), 1);
+        for (int policy = 0; policy <= 2; policy++) {
+            for (int clock = 0; clock <= 400; clock += clock < 60 || clock == 399 ? 1 : 113) {
+                restoredFromOther(policy, clock);
+            }
         }
-        CeilingWorkbench y = new CeilingWorkbench();
-        y.snapshot();
-        Check.configured(y, "x");
-        y.restore();
-        Check.due("an error position that came later stays", y.errorPosition(), 0);
+        CeilingWorkbench x = Edges.full();
+        x.snapshot();
+        Check.answer(x::configure);
+        x.restore();
+        Check.due("the error position is not in it", x.errorPosition(), 11);
+        Check.due("the buffer is not in it", x.append('a'), 1);
+    }
+
+    /** What a snapshot does not take would be that of the other workbench, or show in the units that follow. */
+    private static void restoredFromOther(int policy, int clock) {
+        CeilingWorkbench x = Check.busyBench(policy);
+        CeilingWorkbench y = Check.busyBench(policy);
+        Edges.runAll(x, clock);
+        Edges.runAll(y, clock);
+        x.snapshot();
+        x.clear();
+        for (int task = 4; task >= 0; task--) {
+            Edges.addTask(x, 2 * task + 1, task + 1, task + 1, 60 - task, task + 1, task + 2);
+        }
+        x.setServer(4, 9, 33);
+        x.request(5, 4);
+        Edges.runAll(x, 400);
+        x.restore();
+        Check.due("all comes back at " + clock, View.of(x), View.of(y));
+        int units = Math.min(60, 400 - clock);
+        Check.due("run", Edges.runAll(x, units), Edges.runAll(y, units));
+        Check.due("all goes on from " + clock, View.of(x), View.of(y));
+        x.rewind();
+        y.rewind();
+        Check.due("run", x.run(60), y.run(60));
+        Check.due("and from 0", View.of(x), View.of(y));
     }
 
     private static void replacedSnapshot() {

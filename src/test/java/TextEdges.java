@@ -214,6 +214,19 @@ final class TextEdges {
             Check.due("append after '" + text + "'", x.append(' '), 1);
             Check.due("the space alone", Check.answer(x::configure), MALFORMED);
         }
+        nothingIsLeftOfTheTextBefore();
+    }
+
+    private static void nothingIsLeftOfTheTextBefore() {
+        CeilingWorkbench x = new CeilingWorkbench();
+        for (String command : COMMANDS) {
+            String words = command.replaceAll("[0-9]+$", "");
+            for (int length = 0; length < words.length(); length++) {
+                Check.configured(x, command);
+                Check.due("a beginning of " + command, Check.configured(x, words.substring(0, length)), MALFORMED);
+                Check.due("its error position", x.errorPosition(), length);
+            }
+        }
     }
 
     private static void results() {
