@@ -3,7 +3,8 @@ import java.util.List;
 
 /**
  * Every method with numbers at, and just beyond, the ends of their ranges, in states from empty to full: the answers
- * are those of the model, and a call that throws leaves nothing behind.
+ * are those of the model, and a call that throws leaves nothing behind. Only configure is left to TextEdges, as its
+ * description says that it empties the buffer in any case.
  */
 final class RefusedCalls {
     private static final String LEAST = " " + Integer.MIN_VALUE;
@@ -26,6 +27,7 @@ final class RefusedCalls {
         {"ranAt", TIME}, {"pending", TASK}, {"activePriority", TASK}, {"holder", RESOURCE}, {"result", TASK, WHAT},
         {"averageResponse", TASK}, {"balance"}, {"nextReplenishment"}, {"requestResponse", LEAST + " -1 0 1 11 12"},
         {"utilization"}, {"restore"}, {"clear"}, {"rewind"}, {"snapshot"}, {"taskCount"}, {"clock"},
+        {"isSchedulable"}, {"load"}, {"hyperbolicLoad"},
     };
 
     private static final String[] TWO_TASKS = {"addTask 5 7 3 0", "addTask 1 9 9 2", "addSegment 0 0 2",
