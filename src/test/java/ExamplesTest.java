@@ -1,9 +1,22 @@
-/** The two runs of calls under "Examples" in the document. */
+import java.io.IOException;
+import java.nio.file.Path;
+import java.util.List;
+
+/** The two runs of calls under "Examples" in the document, as they were written out and as they stand there. */
 public final class ExamplesTest {
-    public static void main(String[] args) {
+    public static void main(String[] args) throws IOException {
         first();
         second();
+        asTheyStand(Path.of(args.length > 1 ? args[1] : "../shared/DOC.md"));
         Check.end("ExamplesTest");
+    }
+
+    private static void asTheyStand(Path document) throws IOException {
+        List<List<Written.Row>> examples = Written.examples(document);
+        Check.due("examples of the document", examples.size(), 2);
+        for (List<Written.Row> example : examples) {
+            Written.check("as it stands there", new CeilingWorkbench(), example);
+        }
     }
 
     private static void first() {
